@@ -21,6 +21,8 @@ public final class BucketGift {
     private static final int MOST_DESERVED = 15;
     private static final int MOST_ENOUGH = 400;
     private static final int SHEETS = 4;
+    // Far above any DRY and any number of DEEDS.
+    private static final int NO_BOUND = 1000000;
 
     private final int[] told = new int[FINDINGS];
     private final Parish here = new Parish();
@@ -224,7 +226,7 @@ public final class BucketGift {
             return finding(NONE);
         }
         int best = 0;
-        int least = Integer.MAX_VALUE;
+        int least = NO_BOUND;
         for (int p = 0; p < here.people; p++) {
             trial.become(here);
             trial.sends[farm] = p;
@@ -245,7 +247,7 @@ public final class BucketGift {
             return finding(NONE);
         }
         int best = 0;
-        int least = Integer.MAX_VALUE;
+        int least = NO_BOUND;
         for (int code = 0; code < Parish.ROUNDS && least > 0; code++) {
             if (here.isRound(code)) {
                 trial.become(here);
@@ -265,7 +267,7 @@ public final class BucketGift {
             return finding(BEYOND);
         }
         int best = -1;
-        int fewest = Integer.MAX_VALUE;
+        int fewest = NO_BOUND;
         for (int set = 0; set <= Kinds.ALL_DEEDS; set++) {
             int many = Integer.bitCount(set);
             if (many < fewest && Kinds.deserved(here.kinds[person], set) >= v) {
@@ -313,7 +315,7 @@ public final class BucketGift {
             return finding(BEYOND);
         }
         int best = 0;
-        int least = Integer.MAX_VALUE;
+        int least = NO_BOUND;
         for (int spring = 0; spring <= Parish.MOST_WATER[Parish.SPRING] && least > 0; spring++) {
             trial.become(here);
             trial.water[Parish.SPRING] = spring;
@@ -350,10 +352,10 @@ public final class BucketGift {
             return finding(BEYOND);
         }
         trial.become(here);
-        int with = dryOfTrial(n, Integer.MAX_VALUE);
+        int with = dryOfTrial(n, NO_BOUND);
         trial.become(here);
         trial.sendNoMore(person);
-        return dryOfTrial(n, Integer.MAX_VALUE) - with;
+        return dryOfTrial(n, NO_BOUND) - with;
     }
 
     public int did(int person, int v) {
@@ -811,7 +813,7 @@ public final class BucketGift {
         int gift(int person, int kind, int itsDeeds, int step) {
             int full;
             if (kind == Kinds.SHAM && step != person) {
-                full = Math.max(0, deservedBy(step) + water[BOTTOM] - 1);
+                full = Math.max(0, Kinds.deserved(kinds[step], deeds[step]) + water[BOTTOM] - 1);
             } else {
                 full = Kinds.deserved(kind, itsDeeds) + water[BOTTOM];
             }
@@ -819,7 +821,7 @@ public final class BucketGift {
         }
 
         int draw(int person, int farm) {
-            int gift = givenTo(person);
+            int gift = gift(person, kinds[person], deeds[person], steps[person]);
             store[farm] = Math.min(MOST, store[farm] + gift);
             water[WELL] -= gift;
             asked[person] = Math.min(MOST_ASKED, asked[person] + 1);
