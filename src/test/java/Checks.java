@@ -32,6 +32,10 @@ final class Checks {
         }
     }
 
+    int done() {
+        return done;
+    }
+
     int wrong() {
         return wrong;
     }
