@@ -118,6 +118,24 @@ final class BestSentences extends SentenceTests {
         due("whom they send now counts for nothing", y.round(7), 3201);
     }
 
+    @Sentence(promise = 18, says = "Whom all four FARMS had best SEND, each another one")
+    static void roundOfFourThoughFewerWereBetter() {
+        BucketGift x = quiet(STRANGER, STRANGER, STRANGER, STRANGER);
+        x.water(WELL, 12);
+        x.water(SPRING, 12);
+        needsAndHas(x, 3, 12, 0);
+        due("whoever goes for FARM 0 takes it all", x.round(7), 3210);
+        x.person(PRIEST);
+        due("one more, who leaves too little", x.round(7), 3210);
+        x.farm(3, NEED, 10);
+        x.person(PRIEST);
+        x.does(4, 0);
+        x.does(5, 0);
+        x.person(PRIEST);
+        x.does(6, 0);
+        due("three on whom nothing is wasted for a day", x.round(1), 654);
+    }
+
     @Sentence(promise = 18, says = "the one of FARM 0, and 10 times that of FARM 1, and so on")
     static void roundInTens() {
         int[] kinds = {PRIEST, PRIEST, PRIEST, PRIEST, FARMER, LAZY, SHAM, STRANGER};
@@ -238,7 +256,15 @@ final class BestSentences extends SentenceTests {
         x.set(5, DEEDS, 3);
         due("of one who deserves 8", x.step(0), 5);
         due("of the only one there", with(SHAM).step(0), 0);
-        onlyAsks("step(4)", y -> y.step(4));
+        BucketGift y = with(STRANGER, FARMER, SHAM);
+        y.set(2, DEEDS, 15);
+        due("its own, since it did so much good itself", y.step(2), 2);
+        y.set(2, DEEDS, 3);
+        due("a stranger's, since it did less", y.step(2), 0);
+        y.set(1, DEEDS, 15);
+        y.turn(0, LAZY);
+        due("what others did is nothing to one who is no sham", y.step(0), 0);
+        onlyAsks("step(4)", z -> z.step(4));
     }
 
     @Sentence(promise = 20, says = "of several the least")
@@ -292,6 +318,11 @@ final class BestSentences extends SentenceTests {
         due("5 as any of three", x.kind(0), LAZY);
         x.water(WELL, 0);
         due("nothing as any", x.kind(0), FARMER);
+        BucketGift y = with(FARMER, FARMER);
+        y.set(1, ASKED, 9);
+        due("nothing as any, asked nine times", y.kind(1), FARMER);
+        y.set(1, ASKED, 3);
+        due("1 as a stranger, asked three times", y.kind(1), STRANGER);
         x.water(WELL, 100);
         x.set(0, STEP, 1);
         x.set(0, DEEDS, 3);

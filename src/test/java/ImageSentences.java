@@ -102,15 +102,10 @@ final class ImageSentences extends SentenceTests {
         due("days go again", day.days(1) > -1000000000);
     }
 
-    private static void torn(BucketGift x) {
-        Twins.busy(x);
-        x.tear();
-    }
-
     @Sentence(promise = 36, says = "NONE: nothing is kept.")
     static void undoNone() {
         refused("of a new object", x -> x.now(0), BucketGift::undo, NONE);
-        refused("after tear()", ImageSentences::torn, BucketGift::undo, NONE);
+        refused("after tear()", Twins::torn, BucketGift::undo, NONE);
     }
 
     @Sentence(promise = 37, says = "Nothing is kept: 1 if something was, else 0.")

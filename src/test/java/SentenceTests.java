@@ -82,6 +82,7 @@ abstract class SentenceTests {
         BucketGift x = Twins.made(start);
         BucketGift twin = Twins.made(start);
         List<Long> before = Twins.status(x);
+        due("no finding before " + call, before.get(0), 0);
         due(call, act.of(x), finding);
         before.set(0, before.get(0) + 1);
         int which = -1000000000 - finding;

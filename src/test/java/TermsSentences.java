@@ -64,13 +64,8 @@ final class TermsSentences extends SentenceTests {
         refused("copy", x -> x.copy(0, 0, 0, 1, 3), BEYOND);
         refused("lays", x -> x.lays(3), MISSING);
         refused("book", x -> x.book(0, 4), BEYOND);
-        refused("undo", TermsSentences::torn, BucketGift::undo, NONE);
+        refused("undo", Twins::torn, BucketGift::undo, NONE);
         refused("status", x -> x.status(7), BEYOND);
-    }
-
-    private static void torn(BucketGift x) {
-        Twins.busy(x);
-        x.tear();
     }
 
     @Sentence(says = "Quotients are cut.")

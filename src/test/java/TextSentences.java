@@ -1,6 +1,3 @@
-import java.util.ArrayList;
-import java.util.List;
-
 /** Promises 26 to 28, and what 'Terms' says of the text. */
 final class TextSentences extends SentenceTests {
     private static String shown(String text) {
@@ -33,8 +30,7 @@ final class TextSentences extends SentenceTests {
         BucketGift x = fed(text, kinds);
         due(shown(text) + " with " + kinds.length + " people", x.parish(), -1 - place);
         due("findings after " + shown(text), x.status(-1), 0);
-        List<Long> changed = new ArrayList<>(Twins.look(x));
-        due("nothing changed by " + shown(text), changed.equals(Twins.look(with(kinds))));
+        due("nothing changed by " + shown(text), Twins.look(x).equals(Twins.look(with(kinds))));
     }
 
     private static final int[] SEVEN = {0, 0, 0, 0, 0, 0, 0};

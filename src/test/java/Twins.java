@@ -58,6 +58,12 @@ final class Twins {
         Checks.feed(x, "well 77;" + " ".repeat(104) + "spring 7");
     }
 
+    /** As busy, but nothing is kept. */
+    static void torn(BucketGift x) {
+        busy(x);
+        x.tear();
+    }
+
     /** DAY 9999, with few calls besides, so that a look has room among the 512. */
     static void lastDay(BucketGift x) {
         x.person(3);
@@ -77,7 +83,7 @@ final class Twins {
         }
     }
 
-    /** A new object as the start makes it; the start itself must answer no finding. */
+    /** A new object as the start makes it. */
     static BucketGift made(Start start) {
         BucketGift x = new BucketGift();
         start.at(x);
